@@ -311,19 +311,11 @@ public final class LastMender {
     }
 
     public int undo() {
-        if (changes.done <= 0) return STATE;
-        changes.done--;
-        int i = changes.done;
-        facts.tell(changes.number[i], changes.what[i], changes.was[i]);
-        return changes.done;
+        return changes.takeBack(facts) ? changes.done : STATE;
     }
 
     public int redo() {
-        if (changes.undone() <= 0) return STATE;
-        int i = changes.done;
-        changes.done++;
-        facts.tell(changes.number[i], changes.what[i], changes.became[i]);
-        return changes.undone();
+        return changes.doAgain(facts) ? changes.undone() : STATE;
     }
 
     // ---- acts, shelves
@@ -470,6 +462,10 @@ public final class LastMender {
             }
         }
 
+        boolean isForgotten(int years) {
+            return forgotten > 0 && years >= forgotten;
+        }
+
         boolean anyBest() {
             for (int t = 0; t < things; t++) {
                 if (way[owner[t]] == BEST) return true;
@@ -601,8 +597,7 @@ public final class LastMender {
 
         private void bills(World w, int t) {
             int last = w.last[t], before = w.before[t], bill = facts.bill[t];
-            boolean forgotten = facts.forgotten > 0 && w.age[t] >= facts.forgotten;
-            if (last == NOBODY || forgotten) {
+            if (last == NOBODY || facts.isForgotten(w.age[t])) {
                 w.payer[t] = facts.owner[t];
                 w.pays(facts.owner[t], bill);
                 return;
@@ -706,15 +701,11 @@ public final class LastMender {
             if (s > 1) {
                 less = has + behind[older * 4 + s - 1];
             } else {
-                boolean anotherPays = side == OTHERS && !isForgotten(old);
+                boolean anotherPays = side == OTHERS && !facts.isForgotten(old);
                 less = behind[BROKE * 4 + WHOLE_STATE] - (anotherPays ? 0 : unit * facts.bill[thing]);
             }
             int worn = wear.number(thing, s, old, side != NONE);
             return worn * less + (12 - worn) * same;
-        }
-
-        private boolean isForgotten(int years) {
-            return facts.forgotten > 0 && years >= facts.forgotten;
         }
 
         long leftAt(int s) {
@@ -752,7 +743,7 @@ public final class LastMender {
                 long wornOne = one * wear.number(t, 1, old, true);
                 long wornTwo = two * wear.number(t, 2, old, true);
                 long wornThree = three * wear.number(t, 3, old, true);
-                sum = sum * 12 + (isForgotten(old) ? 0 : wornOne * facts.bill[t]);
+                sum = sum * 12 + (facts.isForgotten(old) ? 0 : wornOne * facts.bill[t]);
                 one = one * 12 - wornOne + wornTwo;
                 two = two * 12 - wornTwo + wornThree;
                 three = three * 12 - wornThree;
@@ -791,7 +782,7 @@ public final class LastMender {
 
         private int[] text = new int[0];
         private int length, at;
-        private final Steps steps = new Steps();
+        final Steps steps = new Steps();
 
         /** The fault, or -1. */
         int read(int[] tape, int tapeLength) {
@@ -1007,6 +998,20 @@ public final class LastMender {
 
         int undone() {
             return all - done;
+        }
+
+        boolean takeBack(Facts facts) {
+            if (done <= 0) return false;
+            done--;
+            facts.tell(number[done], what[done], was[done]);
+            return true;
+        }
+
+        boolean doAgain(Facts facts) {
+            if (undone() <= 0) return false;
+            facts.tell(number[done], what[done], became[done]);
+            done++;
+            return true;
         }
     }
 
