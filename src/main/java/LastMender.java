@@ -38,7 +38,6 @@ public final class LastMender {
     }
 
     public int thing(int owner, int wb) {
-        if (wb < 0 || wb > 9999) return BAD;
         return addThing(owner, wb / 100, wb % 100);
     }
 

@@ -295,5 +295,10 @@ public final class DeedTest {
         DUE.is("11: age", x.of(0, 17), 99);
         x.years(1, 30);
         DUE.is("11: 99 at most", x.of(0, 17), 99);
+        for (int i = 1; i < 6; i++) x.thing(0, 0);
+        x.fix(51);
+        for (int i = 0; i < 4; i++) x.years(1, 30);
+        Due.law(x, "l*3+t+(a>98)*4");
+        for (int i = 0; i < 6; i++) DUE.is("7: of(" + i + ", 19)", x.of(i, 19), i == 5 ? 12 : i + 4);
     }
 }

@@ -130,5 +130,30 @@ public final class ImageAndChangesTest {
         DUE.is("25: fee", x.of(0, 1), 3);
         for (int i = 39; i >= 0; i--) DUE.is("26: redo()", x.redo(), i);
         DUE.is("26: fee", x.of(0, 1), 43);
+        kindsInTurn();
+    }
+
+    /** Each change is kept whole as the oldest are forgotten. */
+    private static void kindsInTurn() {
+        LastMender x = new LastMender();
+        for (int i = 0; i < 5; i++) {
+            x.person(1, 0);
+            x.thing(i, 0);
+        }
+        int[][] all = new int[60][];
+        int[] at = {1, 11, 12};
+        for (int i = 0; i < 60; i++) {
+            int what = i % 3 == 0 ? 1 : 2 + i % 3, number = i * 7 % 5;
+            int v = i % 90 + 1;
+            all[i] = new int[] {number, at[i % 3], x.mend(number, what, v), v};
+        }
+        for (int i = 59; i >= 20; i--) {
+            DUE.is("25: undo()", x.undo(), i - 20);
+            DUE.is("25: what it was", x.of(all[i][0], all[i][1]), all[i][2]);
+        }
+        for (int i = 20; i < 60; i++) {
+            DUE.is("26: redo()", x.redo(), 59 - i);
+            DUE.is("26: what it became", x.of(all[i][0], all[i][1]), all[i][3]);
+        }
     }
 }

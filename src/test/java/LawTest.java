@@ -55,12 +55,12 @@ public final class LawTest {
         DUE.is("9: not", number("!0+!7+!!9"), 2);
         DUE.is("9: below 0 twice", number("--5"), 5);
         DUE.is("9: brackets", number("((1+2)*3)"), 9);
-        DUE.is("9: less", number("1+(2<3)+(3<2)+(3<3)"), 2);
-        DUE.is("9: more", number("1+(2>3)+(3>2)+(3>3)"), 2);
-        DUE.is("9: alike", number("1+(2=3)+(3=3)"), 2);
+        DUE.is("9: less", number("(2<3)+(3<2)*2+(3<3)*4"), 1);
+        DUE.is("9: more", number("(2>3)+(3>2)*2+(3>3)*4"), 2);
+        DUE.is("9: alike", number("(2=3)+(3=3)*2+(3=2)*4"), 2);
         DUE.is("9: + ahead of <", number("1+1<3"), 1);
-        DUE.is("9: and", number("4+(2&3)+(0&2)+(2&0)"), 5);
-        DUE.is("9: or", number("4+(2|0)+(0|2)+(0|0)"), 6);
+        DUE.is("9: and", number("(2&3)+(0&2)*2+(2&0)*4+(0&0)*8"), 1);
+        DUE.is("9: or", number("(2|0)+(0|2)*2+(3|2)*4+(0|0)*8"), 7);
         DUE.is("9: & ahead of |", number("1|1&0"), 1);
         DUE.is("9: < ahead of &", number("1&2<1"), 0);
         DUE.is("9: alone it stays", number("7"), 7);

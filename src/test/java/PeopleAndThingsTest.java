@@ -50,7 +50,9 @@ public final class PeopleAndThingsTest {
         DUE.is("3: thing(-1, 0)", x.thing(-1, 0), LastMender.BAD);
         DUE.is("3: thing(2, 0)", x.thing(2, 0), LastMender.BAD);
         DUE.is("3: thing(0, -1)", x.thing(0, -1), LastMender.BAD);
-        DUE.is("3: thing(0, 10000)", x.thing(0, 10000), LastMender.BAD);
+        for (int wb : new int[] {-50, -100, -101, 10000, 10099, 99999, Integer.MIN_VALUE, Integer.MAX_VALUE}) {
+            DUE.is("3: thing(0, " + wb + ")", x.thing(0, wb), LastMender.BAD);
+        }
         DUE.is("3: count(1)", x.count(1), 0);
         DUE.is("3: thing(1, 9907)", x.thing(1, 9907), 0);
         DUE.is("3: thing(0, 7)", x.thing(0, 7), 1);
@@ -95,14 +97,21 @@ public final class PeopleAndThingsTest {
         DUE.is("4: no more than asked for", x.things(0, 1, 1), 1);
         DUE.is("4: behind the end", x.things(0, 8, 1), 0);
         DUE.is("4: far behind the end", x.things(0, Integer.MAX_VALUE, 6), 0);
+        for (int[] one : new int[][] {{0, 100, 1}, {0, 1, -1}, {0, -1, 1}, {-1, 1, 1}, {0, 1, 127}}) {
+            Due.bytes(x, 0, one);
+            DUE.is("4: one that is not so", x.things(0, 0, 1), 0);
+        }
         Due.bytes(x, 0, 0, 1, 1, 0, -1, 1, 0, 1, 1);
         DUE.is("4: one is not so", x.things(0, 0, 3), 1);
         Due.bytes(x, 0, 2, 1, 1);
         DUE.is("4: no such owner", x.things(0, 0, 1), 0);
         Due.bytes(x, 0, 0, 1, 100);
         DUE.is("4: too large a bill", x.things(0, 0, 1), 0);
+        Due.bytes(x, 0, 1, 5, 6);
+        DUE.is("4: up to the row's end", x.things(0, 0, 2), 1);
+        DUE.is("4: worth", x.of(4, 11), 5);
         Due.bytes(x, 0, 0, 1, 1, 0, 2, 2, 0, 3, 3);
-        DUE.is("4: until they are full", x.things(0, 0, 3), 2);
+        DUE.is("4: until they are full", x.things(0, 0, 3), 1);
         DUE.is("4: full", x.things(0, 0, 3), 0);
         DUE.is("4: count(1)", x.count(1), 6);
     }

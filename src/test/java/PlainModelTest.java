@@ -25,6 +25,8 @@ public final class PlainModelTest {
     private final int[] owner = new int[6], worth = new int[6], bill = new int[6], next = new int[6];
     private int[] state = new int[6], last = new int[6], before = new int[6], age = new int[6];
     private int[] purse = new int[5], bills = new int[5], fees = new int[5], payer = new int[6];
+    private final StringBuilder[] nails = new StringBuilder[6];
+    private boolean inThought;
     private int z;
 
     private PlainModelTest(long seed) {
@@ -54,6 +56,7 @@ public final class PlainModelTest {
             state[t] = 3;
             last[t] = -2;
             before[t] = -2;
+            nails[t] = new StringBuilder();
             DUE.is("3: thing", x.thing(owner[t], worth[t] * 100 + bill[t]), things++);
         }
         for (int i = 0; i < 40; i++) step();
@@ -88,11 +91,24 @@ public final class PlainModelTest {
             DUE.is("age", x.of(i, 17), age[i]);
             DUE.is("number", x.of(i, 19), lawNumber(law, state[i], i, age[i], last[i] >= 0 ? 1 : 0));
         }
+        layers(t, p);
         for (int i = 0; i < people; i++) {
             DUE.is("purse", x.of(i, 3), purse[i]);
             DUE.is("bills", x.of(i, 4), bills[i]);
             DUE.is("fees", x.of(i, 5), fees[i]);
         }
+    }
+
+    private void layers(int t, int p) {
+        DUE.is("7: layers", x.of(t, 18), nails[t].length());
+        for (int i = 0; i < 8; i++) {
+            DUE.is("13: layer", x.layer(t, i), i < nails[t].length() ? nails[t].charAt(i) - '0' : -1);
+        }
+        int q = random.nextInt(people), often = 0;
+        for (int i = 0; i < things; i++) {
+            for (int at = nails[i].indexOf("" + q + p); at >= 0; at = nails[i].indexOf("" + q + p, at + 1)) often++;
+        }
+        DUE.is("15: over", x.over(10 * p + q), p == q ? -1 : often);
     }
 
     private void tell(int p, int t) {
@@ -138,6 +154,9 @@ public final class PlainModelTest {
         age[t] = 0;
         purse[p] -= fee[p];
         fees[p] += fee[p];
+        if (inThought) return;
+        nails[t].append(p);
+        if (nails[t].length() > 8) nails[t].deleteCharAt(0);
     }
 
     private int year() {
@@ -296,11 +315,13 @@ public final class PlainModelTest {
     }
 
     private int[][] standing() {
+        inThought = true;
         return new int[][] {state.clone(), last.clone(), before.clone(), age.clone(), purse.clone(), bills.clone(),
             fees.clone(), payer.clone()};
     }
 
     private void stand(int[][] as) {
+        inThought = false;
         state = as[0];
         last = as[1];
         before = as[2];
@@ -312,7 +333,7 @@ public final class PlainModelTest {
     }
 
     private void ruleds() {
-        int seed = random.nextInt(), n = 1 + random.nextInt(5), was = forgotten, least = -1, fewest = 1000;
+        int seed = random.nextInt(), n = 1 + random.nextInt(random.nextInt(10) == 0 ? 20 : 4), was = forgotten, least = -1, fewest = 1000;
         for (int f = 0; f <= 9; f++) {
             int[][] as = standing();
             forgotten = f;

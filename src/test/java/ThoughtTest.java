@@ -218,6 +218,26 @@ public final class ThoughtTest {
         DUE.is("21: F is as it was", x.rule(0, 0), 7);
         DUE.is("21: in thought", x.of(0, 17), 0);
         DUE.is("21: in thought", x.count(2), 0);
+        ruledByTheMost();
+    }
+
+    /** Mended at once where its mender is forgotten, and worn all the sooner: only 9 leaves it be. */
+    private static void ruledByTheMost() {
+        LastMender x = new LastMender();
+        x.person(1, 9);
+        x.person(3, 0);
+        x.mend(0, 2, 4);
+        x.thing(0, 1935);
+        Due.law(x, "a%3*4");
+        x.fix(1);
+        for (int f = 0; f <= 9; f++) {
+            x.rule(0, f);
+            x.image();
+            DUE.is("21: by " + f + " none breaks", x.years(60, 20) == 0 ? 1 : 0, f == 9 ? 1 : 0);
+            x.back();
+        }
+        DUE.is("21: F", x.ruled(60, 20, 0), 9);
+        DUE.is("21: how many", x.ruled(60, 20, 1), 0);
     }
 
     private static void ruined() {
