@@ -51,9 +51,11 @@ public final class LastMender {
 
     public int things(int shelf, int i, int n) {
         Shelf from = shelfAt(shelf);
-        if (from == null || i < 0 || n < 1 || n > MOST_THINGS) return BAD;
+        if (from == null || n < 1 || n > MOST_THINGS) return BAD;
         if (from.holds == Shelf.NOTHING) return 0;
         if (!from.isRowOf(Shelf.BYTES)) return OTHER_KIND;
+        // No place is BAD by itself: from one that is not there, none comes.
+        if (i < 0) return 0;
         int came = 0;
         for (int at = i; came < n && at <= from.size - 3; at += 3) {
             if (addThing((int) from.items[at], (int) from.items[at + 1], (int) from.items[at + 2]) < 0) break;

@@ -82,12 +82,12 @@ public final class PeopleAndThingsTest {
         DUE.is("4: things(-1, 0, 1)", x.things(-1, 0, 1), LastMender.BAD);
         DUE.is("4: things(0, 0, 0)", x.things(0, 0, 0), LastMender.BAD);
         DUE.is("4: things(0, 0, 7)", x.things(0, 0, 7), LastMender.BAD);
-        DUE.is("4: things(0, -1, 1)", x.things(0, -1, 1), LastMender.BAD);
         x.row(1, 1, 3);
         DUE.is("4: shorts", x.things(1, 0, 1), -12);
         x.body(0);
         x.keep(2, 0);
         DUE.is("4: a person", x.things(2, 0, 1), -12);
+        thingsFromBelow(x);
         Due.bytes(x, 0, 9, 1, 20, 30, 0, 99, 0, 1);
         DUE.is("4: from 1, ends within a three", x.things(0, 1, 3), 2);
         DUE.is("4: owner", x.of(0, 10), 1);
@@ -114,6 +114,21 @@ public final class PeopleAndThingsTest {
         DUE.is("4: until they are full", x.things(0, 0, 3), 1);
         DUE.is("4: full", x.things(0, 0, 3), 0);
         DUE.is("4: count(1)", x.count(1), 6);
+    }
+
+    /** A place below 0 is not BAD by itself: the shelf 0 holds nothing yet, 1 shorts, 2 a person. */
+    private static void thingsFromBelow(LastMender x) {
+        for (int i : new int[] {-1, -2, -3, -18, Integer.MIN_VALUE}) {
+            DUE.is("4: missing, from " + i, x.things(0, i, 1), 0);
+            DUE.is("4: shorts, from " + i, x.things(1, i, 1), -12);
+            DUE.is("4: a person, from " + i, x.things(2, i, 6), -12);
+            DUE.is("4: no such shelf, from " + i, x.things(6, i, 1), LastMender.BAD);
+            DUE.is("4: none asked for, from " + i, x.things(0, i, 0), LastMender.BAD);
+            Due.bytes(x, 0, 0, 1, 2, 0, 3, 4);
+            DUE.is("4: a row, from " + i, x.things(0, i, 6), 0);
+            x.keep(0, -1);
+        }
+        DUE.is("4: none came", x.count(1), 0);
     }
 
     private static void rule() {
