@@ -20,6 +20,10 @@ final class Due {
         is(call + " below", below, wantBelow);
     }
 
+    int asked() {
+        return asked;
+    }
+
     void end() {
         System.out.println(name + ": " + asked + " asked, " + wrong + " wrong");
         if (wrong != 0 || asked == 0) System.exit(1);
