@@ -291,6 +291,30 @@ public final class EdgesChangesTest extends Edges {
         }
     }
 
+    @Says("can be UNDONE, the latest first, and DONE AGAIN (as long as no other came behind); 40 at most are kept.")
+    static void fortyOfAllKinds() {
+        int[] at = {0, 1, 2, 11, 12, 14}, most = {3, 99, 4, 99, 99, 5};
+        LastMender x = people(1, 0, 1, 0, 1, 0, 1, 0, 1, 0);
+        for (int t = 0; t < 5; t++) x.thing(0, 0);
+        int[][] all = new int[57][];
+        for (int i = 0; i < 57; i++) {
+            int what = i * i % 6, number = i * (i + 1) / 2 % 5;
+            int v = x.of(number, at[what]) == most[what] ? 1 : most[what] - (what == 1 ? i : 0);
+            all[i] = new int[] {number, what, x.mend(number, what, v), v};
+            is("another number", all[i][2] != v);
+        }
+        for (int i = 56; i >= 17; i--) {
+            is("undo()", x.undo(), i - 17);
+            is("what it was", x.of(all[i][0], at[all[i][1]]), all[i][2]);
+        }
+        is("no more", x.undo(), STATE);
+        for (int i = 17; i < 57; i++) {
+            is("redo()", x.redo(), 56 - i);
+            is("what it became", x.of(all[i][0], at[all[i][1]]), all[i][3]);
+        }
+        is("no more", x.redo(), STATE);
+    }
+
     @Says({"40 at most are kept", "as long as no other came behind"})
     static void fortyWithUndone() {
         LastMender x = people(1, 0);

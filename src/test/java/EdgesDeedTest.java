@@ -67,6 +67,21 @@ public final class EdgesDeedTest extends Edges {
         is("no THING is there", people(1, 0).fix(0), BAD);
     }
 
+    @Says("(tp: 10 times the THING and the PERSON)")
+    static void thingAndPerson() {
+        LastMender x = people(1, 1, 1, 1, 1, 1, 1, 1, 1, 1);
+        for (int t = 0; t < 6; t++) x.thing(0, 0);
+        for (int tp = -20; tp < 80; tp++) {
+            boolean there = tp >= 0 && tp / 10 < 6 && tp % 10 < 5;
+            is("fix(" + tp + ")", x.fix(tp), there ? 3 : BAD);
+            if (there) is("who mended it", x.of(tp / 10, 15), tp % 10);
+        }
+        for (int t = 0; t < 6; t++) {
+            is("how many", x.of(t, 18), 5);
+            for (int p = 0; p < 5; p++) is("in turn", x.layer(t, p), p);
+        }
+    }
+
     @Says("1 THING by THING its OWNER mends it or not, by its WAY.")
     static void mendsFirst() {
         LastMender x = owned(1, 0, 0);
@@ -412,7 +427,9 @@ public final class EdgesDeedTest extends Edges {
         x.years(1, 1);
         is("not broken", x.paid(0), NOT);
         x.thing(0, 0);
+        x.thing(0, 0);
         is("it came since", x.paid(1), STATE);
+        is("so did this", x.paid(2), STATE);
         is("the one ahead", x.paid(0), NOT);
         x.years(1, 1);
         is("a YEAR with it", x.paid(1), NOT);
@@ -497,6 +514,14 @@ public final class EdgesDeedTest extends Edges {
         is("seven of eight", told(ten, 2, 0, 1, 2, 0, 1, 2), 7);
         is("nine of eight", told(ten, 2, 0, 1, 2, 0, 1, 2, 0, 1), 8);
         is("all ten", told(ten, ten), 0);
+        LastMender x = owned(2, 0, 0);
+        for (int p : ten) x.fix(p);
+        for (int i = 0; i < 8; i++) x.fix(11);
+        Due.bytes(x, 0, 2, 0, 1, 2, 0, 1, 2, 0);
+        is("whatever the next one's are", x.told(0, 0), NOT);
+        x.row(0, 0, 9);
+        for (int i = 0; i < 8; i++) x.put(0, i, 1);
+        is("one more than eight", x.told(0, 1), 8);
     }
 
     @Says("TOLD. BAD, -11, -12 (no ROW of bytes); NOT.")
@@ -550,5 +575,24 @@ public final class EdgesDeedTest extends Edges {
             is("over(" + pq + ")", x.over(pq), BAD);
         }
         for (int pq : new int[] {1, 2, 10, 12, 20, 21}) is("over(" + pq + ")", x.over(pq), 0);
+    }
+
+    @Says("(pq: 10 times the one and the other whose nail is below) in all THINGS")
+    static void oneAndTheOther() {
+        LastMender x = people(1, 0, 1, 0, 1, 0, 1, 0, 1, 0);
+        for (int t = 0; t < 6; t++) x.thing(0, 0);
+        for (int t = 0; t < 6; t++) {
+            for (int i = 0; i <= t; i++) x.fix(10 * t + i * (t + 1) % 5);
+        }
+        for (int pq = -20; pq < 70; pq++) {
+            int p = pq / 10, q = pq % 10, often = 0;
+            boolean there = pq >= 0 && p < 5 && q < 5 && p != q;
+            for (int t = 0; t < 6; t++) {
+                for (int i = 1; i <= t; i++) {
+                    if (p == i * (t + 1) % 5 && q == (i - 1) * (t + 1) % 5) often++;
+                }
+            }
+            is("over(" + pq + ")", x.over(pq), there ? often : BAD);
+        }
     }
 }

@@ -59,6 +59,23 @@ public final class EdgesThoughtTest extends Edges {
         for (int ty : new int[] {0, 6, 10, 16}) is("worth(" + ty + ", 0, 1)", x.worth(ty, 0, 1) > 0);
     }
 
+    @Says({"ty: 10 times the THING and y, 0 .. 6", "py: 10 times the PERSON and y"})
+    static void thingAndYears() {
+        LastMender x = people(1, 0, 1, 0, 1, 0, 1, 0, 1, 0);
+        for (int t = 0; t < 6; t++) {
+            x.thing(0, 100 * t + 7 * (t + 1));
+            x.fix(10 * t + Math.min(t, 4));
+        }
+        law(x, "0");
+        for (int ty = -20; ty < 80; ty++) {
+            boolean years = ty >= 0 && ty % 10 <= 6;
+            is("worth(" + ty + ", 0, 0)", x.worth(ty, 0, 0), years && ty / 10 < 6 ? ty / 10 * (ty % 10) : NO_LONG);
+            is("debts(" + ty + ", 1)", x.debts(ty, 1), years && ty / 10 < 5 ? 1 : NO_LONG);
+            is("now(" + ty + ", 1)", x.now(ty, 1), years && ty / 10 < 6 ? 0 : BAD);
+            is("gift(" + ty + ", 4, 0)", x.gift(ty, 4, 0), years && ty / 10 < 6 ? ty / 10 * (ty % 10) : NO_LONG);
+        }
+    }
+
     @Says("WORTH TO its OWNER (what 0), BEST (1).")
     static void badWorths() {
         LastMender x = one(1, 0, 10, 20, 1, "12");
@@ -323,6 +340,29 @@ public final class EdgesThoughtTest extends Edges {
                 is("a FEE of " + fee + " in two years", x.now(2, 2), fee < 15 ? 2 : fee < 30 ? 3 : NOT);
             }
         }
+    }
+
+    @Says("would mend it now; NOT.")
+    static void goodByAgeAndLast() {
+        LastMender x = one(1, 1, 0, 90, 1, "a=2?12;0");
+        law(x, "0");
+        x.thing(0, 0);
+        x.fix(2);
+        x.years(1, 2);
+        law(x, "a=2?12;0");
+        is("another thing", x.now(16, 2), NOT);
+        is("AGE 2, another one pays", x.now(1, 2), NOT);
+        x.rule(0, 2);
+        is("another thing", x.now(16, 2), NOT);
+        is("AGE 2, forgotten", x.now(1, 2), 1);
+        x.rule(0, 0);
+        x.fix(0);
+        is("AGE 0", x.now(1, 2), NOT);
+        law(x, "0");
+        x.years(1, 2);
+        law(x, "a=2?12;0");
+        is("another thing", x.now(16, 2), NOT);
+        is("AGE 2, LAST itself", x.now(1, 2), 1);
     }
 
     @Says("SMITH p: what o could pay (what 0), RISK (1). (p is o: BAD.)")

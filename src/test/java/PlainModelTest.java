@@ -253,7 +253,8 @@ public final class PlainModelTest {
 
     // Deep trees of plain recursion take long: few years, but now and then.
     private int someYears() {
-        return random.nextInt(8) == 0 ? 5 : random.nextInt(4);
+        int pick = random.nextInt(40);
+        return pick == 0 ? 6 : pick < 5 ? 5 : random.nextInt(5);
     }
 
     private void worths(int t) {
