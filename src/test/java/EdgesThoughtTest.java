@@ -103,6 +103,55 @@ public final class EdgesThoughtTest extends Edges {
         is("y of a THING alone", x.now(0, 0), 0);
     }
 
+    /** A THING of STATE 3, mended by one of three, of an AGE; mending costs more than it brings. */
+    private static LastMender aged(int mender, int age, String text) {
+        LastMender x = people(1, 99, 1, 99, 1, 99);
+        x.thing(0, 1040);
+        law(x, "0");
+        x.fix(mender);
+        for (int i = 0; i < 3; i++) x.years(1, 30);
+        x.years(1, age - 90);
+        is("AGE", x.of(0, 17), age);
+        law(x, text);
+        return x;
+    }
+
+    @Says({"AGE is 1 more (99 at most).", "y YEARS (0 .. 6) from how it is"})
+    static void oldestInThought() {
+        for (int age = 96; age <= 99; age++) {
+            LastMender own = aged(0, age, "a=99?12;0"), others = aged(2, age, "a=99?12;0"), never = aged(2, age, "a>99?12;0");
+            int breaks = 99 - age + 3;
+            for (int y = 0; y <= 6; y++) {
+                int less = y < breaks ? 0 : 10, bill = y < breaks ? 0 : 40;
+                for (int what = 0; what <= 1; what++) {
+                    worthIs("AGE " + age + ", LAST itself", own, y, what, 10 * y - less - bill, 1);
+                    worthIs("AGE " + age + ", LAST another one", others, y, what, 10 * y - less, 1);
+                    worthIs("no AGE above 99", never, y, what, 10 * y, 1);
+                }
+                giftIs("GIFT, AGE " + age, others, y, 1, 10 * y - less);
+                smithIs("SMITH, AGE " + age, own, y, 1, 0, less + bill);
+                debtsAre("DEBTS, AGE " + age, own, y, bill);
+                debtsAre("DEBTS, AGE " + age, others, 20 + y, bill);
+                debtsAre("no AGE above 99", never, 20 + y, 0);
+                if (y > 0) is("RULED, AGE " + age, own.ruled(1, y, 1), y < breaks ? 0 : 1);
+            }
+            is("RUINED, AGE " + age, own.ruined(1, 0, 0) > 0, own.of(0, 3) < 0);
+        }
+    }
+
+    @Says({"STATES (bits 1, 2, 4 for 1, 2, 3)", "AGE is 1 more (99 at most)."})
+    static void oldestOfEachState() {
+        for (int skill = 1; skill <= 3; skill++) {
+            for (int age = 98; age <= 99; age++) {
+                LastMender x = aged(0, age, "a=0?0;12");
+                x.mend(0, 0, skill);
+                x.mend(0, 1, 1);
+                // A STATE above 1 can as well be mended as it has come down to 1.
+                for (int y = 0; y <= 6; y++) is("AGE " + age + ", " + y + " YEARS", x.now(y, 1), y == 0 ? 0 : 1);
+            }
+        }
+    }
+
     @Says("(a BILL that another one pays costs it nothing)")
     static void anotherPays() {
         LastMender x = one(1, 0, 10, 40, 1, "12");
