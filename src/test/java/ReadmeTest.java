@@ -12,7 +12,8 @@ import java.util.regex.Pattern;
 public final class ReadmeTest {
     private static final Due DUE = new Due("ReadmeTest");
     private static final Pattern CALL = Pattern.compile("x\\.(\\w+)\\((.*)\\); +// (-?\\d+).*");
-    private static final Pattern TEXT = Pattern.compile("for \\(char c : \"(.*)\"\\.toCharArray\\(\\)\\) x\\.feed\\(c\\);");
+    private static final Pattern TEXT =
+        Pattern.compile("for \\(char c : \"(.*)\"\\.toCharArray\\(\\)\\) x\\.feed\\(c\\);");
 
     public static void main(String[] args) throws IOException, ReflectiveOperationException {
         String page = Files.readString(Path.of("README.md"));

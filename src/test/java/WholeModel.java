@@ -440,7 +440,7 @@ final class WholeModel {
         return rules[0] > 0 && age >= rules[0];
     }
 
-    /** From behind this year's mending on, for an owner o of a skill and, in years to come, a way: 12 to the y means. */
+    /** From behind this year's mending on, o of a skill owning it, who goes by a way then: 12 to the y means. */
     long rest(int t, int o, int skill, int way, int y, int s, int last, int age) {
         if (y == 0) return 0;
         long unit = twelve(y - 1), worth = things.get(t).worth * unit, worse;

@@ -1,6 +1,7 @@
 import java.lang.reflect.InvocationTargetException;
 import java.lang.reflect.Method;
 import java.lang.reflect.Modifier;
+import java.util.ArrayList;
 import java.util.Arrays;
 import java.util.HashMap;
 import java.util.List;
@@ -12,19 +13,22 @@ public final class WholeModelTest {
     private static final Due DUE = new Due("WholeModelTest");
     /** A call and what it is mostly asked with: least..most, 10 of the one and the other (x), or any int. */
     private static final String[] CALLS = {
-        "person 1..3 0..20", "person 1..3 0..99", "thing 0..4 0..9999", "thing 0..2 0..4000", "things 0..5 0..12 1..6",
-        "rule 0..0 0..9", "rule 1..1 0..1", "mend 0..4 0..0 1..3", "mend 0..4 1..1 0..20", "mend 0..4 2..2 0..4",
-        "mend 0..4 2..2 4..4", "mend 0..5 3..4 0..99", "mend 0..5 5..5 0..5", "of 0..4 0..5", "of 0..5 10..19",
-        "feed 0..255", "feed 40..64", "law", "text", "text", "fix 0..5x0..4", "fix 0..5x0..4", "years any 1..30",
-        "years any 1..4", "paid 0..5", "layer 0..5 0..7", "told 0..5 0..5", "over 0..4x0..4", "worth 0..5x0..6 0..1 0..1",
-        "now 0..5x0..6 0..2", "smith 0..5x0..6 0..4 0..1 0..1", "gift 0..5x0..6 0..4 0..1", "debts 0..4x0..6 0..1",
-        "ruled any 1..20 0..1", "ruined any -999..0 0..1", "ruined any -120..0 0..1", "image", "back", "undo", "redo",
-        "body 0..7", "act 0..49 0..3 any", "act 0..6 0..3 any", "trace 0..23", "keep 0..5 -1..6", "row 0..5 0..4 0..60",
-        "row 0..5 0..0 0..20", "put 0..5 0..20 0..9", "put 0..5 0..20 any", "element 0..5 0..20",
-        "shift 0..5 0..9 0..5 0..9 0..9", "taken 0..5 0..7", "count 0..7", "threes", "nails"};
-    /** Calls that come far more often in one run in so many. */
-    private static final String[] OFTEN = {"", "mend undo redo", "body act keep taken", "text of", "over fix layer",
-        "ruled years rule fix", "worth now smith gift debts fix years", "feed", "row put shift element threes nails told"};
+        "person 1..3 0..20", "person 1..3 0..99", "thing 0..4 0..9999", "thing 0..2 0..4000",
+        "things 0..5 0..12 1..6", "rule 0..0 0..9", "rule 1..1 0..1", "mend 0..4 0..0 1..3", "mend 0..4 1..1 0..20",
+        "mend 0..4 1..1 0..99", "mend 0..4 2..2 0..4", "mend 0..4 2..2 4..4", "mend 0..5 3..4 0..99",
+        "mend 0..5 5..5 0..5", "of 0..4 0..5", "of 0..5 10..19", "feed 0..255", "feed 40..64", "law", "text",
+        "text", "fix 0..5x0..4", "fix 0..5x0..4", "years any 1..30", "years any 1..4", "paid 0..5",
+        "layer 0..5 0..7", "told 0..5 0..5", "over 0..4x0..4", "worth 0..5x0..6 0..1 0..1", "now 0..5x0..6 0..2",
+        "smith 0..5x0..6 0..4 0..1 0..1", "gift 0..5x0..6 0..4 0..1", "debts 0..4x0..6 0..1",
+        "ruled any 1..20 0..1", "ruined any -999..0 0..1", "ruined any -120..0 0..1", "image", "back", "undo",
+        "redo", "unravel", "body 0..7", "act 0..49 0..3 any", "act 0..6 0..3 any", "trace 0..23", "keep 0..5 -1..6",
+        "row 0..5 0..4 0..60", "row 0..5 0..0 0..20", "row 0..5 0..4 0..9", "put 0..5 0..20 0..9",
+        "put 0..5 0..20 any", "element 0..5 0..20", "shift 0..5 0..9 0..5 0..9 0..9", "taken 0..5 0..7",
+        "count 0..7", "threes", "nails"};
+    /** Calls that come far more often in one run in so many; in the first all come alike. */
+    private static final String[] OFTEN = {"", "mend undo redo unravel", "body act", "act trace keep taken", "text of",
+        "over fix layer", "ruled years rule fix mend", "worth now smith gift debts fix years", "feed",
+        "ruined fix years mend", "row put shift element", "threes nails told fix"};
     private static final int[] WILD = {Integer.MIN_VALUE, Integer.MAX_VALUE, -100, -11, -10, 61, 100, 1000, 100000};
 
     private static final Map<String, Method> OF_CLASS = callsOf(LastMender.class), OF_MODEL = callsOf(WholeModel.class);
@@ -55,15 +59,16 @@ public final class WholeModelTest {
         }
     }
 
-    /** Some 300 calls of any kind; with what a text or a look at all takes they stay under 512. */
+    /** Some 260 calls of any kind; with what a text or a look at all takes they stay under 512. */
     private void run() {
         for (int i = random.nextInt(4); i > 0; i--) any("person 1..3 0..30");
         for (int i = random.nextInt(5); i > 0; i--) any("thing 0..2 0..9999");
-        List<String> often = Arrays.asList(OFTEN[seed % OFTEN.length].split(" "));
-        while (asked < 300) {
-            String call = CALLS[random.nextInt(CALLS.length)];
-            boolean isOften = often.contains(call.split(" ")[0]);
-            if (isOften || random.nextInt(seed % OFTEN.length == 0 ? 1 : 8) == 0) any(call);
+        List<String> names = Arrays.asList(OFTEN[seed % OFTEN.length].split(" "));
+        List<String> all = Arrays.asList(CALLS), often = new ArrayList<>(all);
+        often.removeIf(call -> !names.contains(call.split(" ")[0]));
+        while (asked < 260) {
+            List<String> from = often.isEmpty() || random.nextInt(5) == 0 ? all : often;
+            any(from.get(random.nextInt(from.size())));
         }
         lookAtAll();
     }
@@ -73,6 +78,7 @@ public final class WholeModelTest {
             case "text": text(); return;
             case "threes": threes(); return;
             case "nails": nails(); return;
+            case "unravel": unravel(); return;
             default:
         }
         String[] parts = call.split(" ");
@@ -126,7 +132,8 @@ public final class WholeModelTest {
         String signs = random.nextInt(3) == 0 ? "(!-(!-stal19)" : "sstal0123459;?|&<=>+-*/%!()";
         for (int i = 0; i < 200 && text.length() < most; i++) {
             text.append(signs.charAt(random.nextInt(signs.length())));
-            if (fault(text) < text.length() && fault(text) >= 0 && random.nextInt(careful) > 0) text.setLength(fault(text));
+            int fault = fault(text);
+            if (fault >= 0 && fault < text.length() && random.nextInt(careful) > 0) text.setLength(fault);
         }
         if (random.nextInt(5) > 0) finish(text);
         for (int i = 0; i < text.length(); i++) ask("feed", text.charAt(i));
@@ -168,6 +175,14 @@ public final class WholeModelTest {
             ask("put", shelf, i, random.nextInt(20) == 0 ? random.nextInt(5) : Math.max(0, model.layer(thing, i)));
         }
         ask("told", shelf, thing);
+    }
+
+    /** Many changes undone, some of them done again. */
+    private void unravel() {
+        int undone = random.nextInt(46), again = random.nextInt(undone + 1);
+        for (int i = 0; i < undone; i++) ask("undo");
+        for (int i = 0; i < again; i++) ask("redo");
+        for (int what = 0; what < 3; what++) ask("of", random.nextInt(5), what);
     }
 
     private void lookAtAll() {
